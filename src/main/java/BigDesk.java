@@ -39,6 +39,9 @@ public final class BigDesk {
     // Leading parts below 10^18 foretell at most 44 of Euclid's steps.
     private static final int MOST_FORETOLD_STEPS = 64;
 
+    // LIFT times BASE lifts a sum of two products of up to 10^15 above 0, where / rounds down.
+    private static final long LIFT = 1000000000000L;
+
     private final Whole[] slots;
     private final Whole upper;
     private final Whole lower;
@@ -409,11 +412,13 @@ public final class BigDesk {
         /** x times y, neither of them too long for a slot, and this neither of them. */
         void takeProduct(Whole x, Whole y) {
             int n = x.size + y.size;
+            int[] ofX = x.parts;
+            int[] ofY = y.parts;
             long carry = 0;
             for (int k = 0; k < n; k++) {
                 int end = Math.min(k + 1, x.size);
                 for (int i = Math.max(0, k - y.size + 1); i < end; i++) {
-                    carry += (long) x.parts[i] * y.parts[k - i];
+                    carry += (long) ofX[i] * ofY[k - i];
                 }
                 parts[k] = (int) (carry % BASE);
                 carry /= BASE;
@@ -482,8 +487,8 @@ public final class BigDesk {
                 return 0;
             }
             subtractTimes(by, times, place);
-            // Three leading parts over two of at least BASE are never more than two above the truth.
-            for (int i = 0; i < 2 && parts[top] < 0; i++) {
+            // Three leading parts over two, which are BASE at least, are never more than one too many.
+            if (parts[top] < 0) {
                 addBack(by, place);
                 times--;
             }
@@ -640,11 +645,13 @@ public final class BigDesk {
             c = 0;
             d = 1;
             for (int step = 0; step < MOST_FORETOLD_STEPS; step++) {
-                if (y + c <= 0 || y + d <= 0) {
+                long oneY = y + c;
+                long otherY = y + d;
+                if (oneY <= 0 || otherY <= 0) {
                     return;
                 }
-                long times = (x + a) / (y + c);
-                if (times != (x + b) / (y + d)) {
+                long times = (x + a) / oneY;
+                if (times != (x + b) / otherY) {
                     return;
                 }
                 long rest = x - times * y;
@@ -668,17 +675,20 @@ public final class BigDesk {
 
         private void takeForetoldSteps() {
             int n = more.size;
+            int[] ofMore = more.parts;
+            int[] ofFewer = fewer.parts;
             long carryMore = 0;
             long carryFewer = 0;
+            Arrays.fill(ofFewer, fewer.size, n, 0);
             for (int i = 0; i < n; i++) {
-                long x = more.parts[i];
-                long y = fewer.partOrZero(i);
-                long newMore = a * x + b * y + carryMore;
-                long newFewer = c * x + d * y + carryFewer;
-                carryMore = Math.floorDiv(newMore, (long) BASE);
-                carryFewer = Math.floorDiv(newFewer, (long) BASE);
-                more.parts[i] = (int) (newMore - carryMore * BASE);
-                fewer.parts[i] = (int) (newFewer - carryFewer * BASE);
+                long x = ofMore[i];
+                long y = ofFewer[i];
+                long newMore = a * x + b * y + carryMore + LIFT * BASE;
+                long newFewer = c * x + d * y + carryFewer + LIFT * BASE;
+                carryMore = newMore / BASE - LIFT;
+                carryFewer = newFewer / BASE - LIFT;
+                ofMore[i] = (int) (newMore % BASE);
+                ofFewer[i] = (int) (newFewer % BASE);
             }
             more.trimTo(n);
             fewer.trimTo(n);

@@ -24,6 +24,7 @@ public final class ArithmeticTest {
         rests();
         divisionBySmallAndGreat();
         commonDivisors();
+        shortAfterLong();
         noSuchSlots();
         sameSlots();
         roots();
@@ -175,6 +176,27 @@ public final class ArithmeticTest {
         BigInteger a = common.multiply(ten(199).subtract(ONE));
         BigInteger b = common.multiply(ten(199).subtract(BigInteger.TWO));
         check("divisor", DIVISOR, a, b, common);
+    }
+
+    /** What a call on long numbers leaves inside the desk must not show in a later call on short ones. */
+    private static void shortAfterLong() {
+        BigInteger shorter = Numbers.of("999999999999999999999999");
+        BigInteger longer = Numbers.of("1500000000000123456789012");
+        Call[] calls = {SUM, LESS, PRODUCT, OVER, LEFT, DIVISOR};
+        BigInteger[] wants = {shorter.add(longer), shorter.subtract(longer), shorter.multiply(longer),
+            BigInteger.ZERO, shorter, shorter.gcd(longer)};
+        for (int i = 0; i < calls.length; i++) {
+            BigDesk desk = new BigDesk();
+            Numbers.enter(desk, 0, Numbers.LONGEST);
+            desk.root(0, 1);
+            desk.product(1, 1, 2);
+            desk.over(0, 1, 2);
+            desk.divisor(0, 0, 2);
+            Numbers.enter(desk, 3, shorter);
+            Numbers.enter(desk, 4, longer);
+            DUE.is("call " + i + " after long numbers", 1, calls[i].of(desk, 3, 4, 2));
+            DUE.is("call " + i + " after long numbers, in its slot", wants[i], Numbers.read(desk, 2));
+        }
     }
 
     private static void noSuchSlots() {
