@@ -13,20 +13,33 @@ final class Numbers {
         return new BigInteger(text);
     }
 
+    static BigInteger of(long number) {
+        return BigInteger.valueOf(number);
+    }
+
+    static BigInteger ten(int e) {
+        return BigInteger.TEN.pow(e);
+    }
+
     static boolean fits(BigInteger number) {
         return number.abs().compareTo(FIRST_TOO_LONG) < 0;
     }
 
-    /** Answers how many calls it made; slots 14 and 15 are used on the way, and slot is neither. */
+    /** As the one with five arguments, with slots 14 and 15 for the way. */
     static int enter(BigDesk desk, int slot, BigInteger number) {
+        return enter(desk, slot, 14, 15, number);
+    }
+
+    /** Answers how many calls it made; slots base and part are used on the way, and slot is neither. */
+    static int enter(BigDesk desk, int slot, int base, int part, BigInteger number) {
         int chunks = number.abs().toString().length() / 18 + 1;
-        desk.set(14, CHUNK_BASE.longValue());
+        desk.set(base, CHUNK_BASE.longValue());
         desk.set(slot, 0);
         for (int i = chunks - 1; i >= 0; i--) {
             long chunk = number.divide(CHUNK_BASE.pow(i)).remainder(CHUNK_BASE).longValue();
-            desk.product(slot, 14, slot);
-            desk.set(15, chunk);
-            desk.sum(slot, 15, slot);
+            desk.product(slot, base, slot);
+            desk.set(part, chunk);
+            desk.sum(slot, part, slot);
         }
         return 2 + 3 * chunks;
     }
