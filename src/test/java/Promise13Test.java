@@ -61,6 +61,9 @@ public final class Promise13Test {
         gives(0, 7, 0, 1);
         gives(0, -7, 0, 1);
         gives(BigInteger.ZERO, LONGEST.negate(), BigInteger.ZERO, ONE);
+        Bench bench = new Bench(DUE).with(2, 0).with(5, -7).with(8, 0);
+        bench.holds("lowest of 0 / -7", bench.desk.lowest(2, 5), 2, BigInteger.ZERO, 5, ONE);
+        bench.answers("order of it and 0", 1, bench.desk.order(2, 8));
     }
 
     private static void oneSlot() {

@@ -86,6 +86,9 @@ public final class Promise14Test {
         gives(0, 1, 0, -7, 0, 9);
         gives(0, 1, 0, -7, 0, -9);
         gives(ZERO, ONE, LONGEST, LONGEST.subtract(ONE), LONGEST, LONGEST.subtract(ONE).negate());
+        Bench bench = benchOf(wholes(1, 2, 1, -2)).with(9, 0);
+        bench.holds("fraction of 1 / 2 + 1 / -2", bench.desk.fraction(2, 5, 8, 12), 2, ZERO, 5, ONE);
+        bench.answers("order of it and 0", 1, bench.desk.order(2, 9));
     }
 
     private static void oneSlot() {

@@ -57,6 +57,8 @@ public final class Promise17Test {
     private static void isZero(BigDesk desk, String what, int got) {
         DUE.is(what, 1, got);
         DUE.is("sign of " + what, 1, desk.sign(5));
+        DUE.is("order of " + what + " and 0", 1, desk.order(5, 4));
+        DUE.is("root of " + what, 1, desk.root(5, 6));
         desk.set(5, -1);
     }
 
