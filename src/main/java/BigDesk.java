@@ -1,5 +1,3 @@
-import java.util.Arrays;
-
 /**
  * Whole numbers of up to 300 digits in sixteen slots, and fractions of two of them.
  *
@@ -21,7 +19,8 @@ public final class BigDesk {
     private static final int DIGITS_OF_PART = 6;
     private static final int MOST_PARTS = 50;
 
-    // The sum of two products of two numbers has 101 parts, and dividing it wants one part more.
+    // The sum of two products of two numbers has 101 parts, and dividing it wants one part more. So no
+    // number comes near the end of its row; where one grows, its end is looked at all the same.
     private static final int ROOM = 104;
 
     private static final int PARTS_OF_LONG = 4;
@@ -352,6 +351,13 @@ public final class BigDesk {
             }
         }
 
+        /** Puts 0 in place of what may be left over there. */
+        void clearParts(int from, int end) {
+            for (int i = from; i < end; i++) {
+                parts[i] = 0;
+            }
+        }
+
         int partOrZero(int i) {
             return i >= 0 && i < size ? parts[i] : 0;
         }
@@ -388,7 +394,7 @@ public final class BigDesk {
         }
 
         private void addParts(Whole x, Whole y) {
-            int n = Math.max(x.size, y.size);
+            int n = Math.min(Math.max(x.size, y.size), ROOM - 1);
             int carry = 0;
             for (int i = 0; i < n; i++) {
                 int part = x.partOrZero(i) + y.partOrZero(i) + carry;
@@ -411,7 +417,7 @@ public final class BigDesk {
 
         /** x times y, neither of them too long for a slot, and this neither of them. */
         void takeProduct(Whole x, Whole y) {
-            int n = x.size + y.size;
+            int n = Math.min(x.size + y.size, ROOM);
             int[] ofX = x.parts;
             int[] ofY = y.parts;
             long carry = 0;
@@ -460,7 +466,7 @@ public final class BigDesk {
         void divideBy(Whole by, Whole times) {
             int places = size - by.size + 1;
             long lead = by.leadOfTwo();
-            if (lead == 0 || places <= 0) {
+            if (lead == 0 || places <= 0 || size >= ROOM) {
                 times.load(0);
                 return;
             }
@@ -529,7 +535,7 @@ public final class BigDesk {
             }
             long above = rootOfLong(lead) + 1;
             int under = cut / 2;
-            Arrays.fill(parts, 0, under, 0);
+            clearParts(0, under);
             parts[under] = (int) (above % BASE);
             parts[under + 1] = (int) (above / BASE);
             below = false;
@@ -679,7 +685,7 @@ public final class BigDesk {
             int[] ofFewer = fewer.parts;
             long carryMore = 0;
             long carryFewer = 0;
-            Arrays.fill(ofFewer, fewer.size, n, 0);
+            fewer.clearParts(fewer.size, n);
             for (int i = 0; i < n; i++) {
                 long x = ofMore[i];
                 long y = ofFewer[i];

@@ -119,7 +119,8 @@ public final class AnswersTest {
         Numbers.enter(desk, 1, number.negate());
         for (int bits = 0; bits <= 60; bits++) {
             long m = 1L << bits;
-            DUE.is("modulo of a long number by 2^" + bits, number.mod(BigInteger.valueOf(m)).longValue(), desk.modulo(0, m));
+            BigInteger rest = number.mod(BigInteger.valueOf(m));
+            DUE.is("modulo of a long number by 2^" + bits, rest.longValue(), desk.modulo(0, m));
             m -= bits == 0 ? 0 : bits % 3;
             if (m > 0) {
                 BigInteger want = number.negate().mod(BigInteger.valueOf(m));

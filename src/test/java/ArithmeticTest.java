@@ -143,7 +143,8 @@ public final class ArithmeticTest {
             for (String q : quotients) {
                 BigInteger divisor = Numbers.of(d);
                 BigInteger multiple = divisor.multiply(Numbers.of(q));
-                for (BigInteger a : new BigInteger[] {multiple.subtract(ONE), multiple, multiple.add(divisor).subtract(ONE)}) {
+                BigInteger last = multiple.add(divisor).subtract(ONE);
+                for (BigInteger a : new BigInteger[] {multiple.subtract(ONE), multiple, last}) {
                     check("over", OVER, a, divisor, a.divide(divisor));
                     check("left", LEFT, a, divisor, a.remainder(divisor));
                 }
@@ -251,7 +252,8 @@ public final class ArithmeticTest {
         }
         checkRoot(Numbers.LONGEST);
         for (int e = 1; e <= 150; e++) {
-            BigInteger[] roots = {ten(e).subtract(ONE), ten(e - 1), ten(e - 1).add(ONE), ten(e).divide(BigInteger.valueOf(7))};
+            BigInteger seventh = ten(e).divide(BigInteger.valueOf(7));
+            BigInteger[] roots = {ten(e).subtract(ONE), ten(e - 1), ten(e - 1).add(ONE), seventh};
             for (BigInteger root : roots) {
                 BigInteger square = root.multiply(root);
                 checkRoot(square);
@@ -285,7 +287,8 @@ public final class ArithmeticTest {
         BigInteger power = BigInteger.valueOf(a).pow(e);
         boolean fits = Numbers.fits(power);
         DUE.is("power(" + a + ", " + e + ")", fits ? 1 : -1, desk.power(0, e, 1));
-        DUE.is("power(" + a + ", " + e + ") in its slot", fits ? power : BigInteger.valueOf(77), Numbers.read(desk, 1));
+        BigInteger now = fits ? power : BigInteger.valueOf(77);
+        DUE.is("power(" + a + ", " + e + ") in its slot", now, Numbers.read(desk, 1));
     }
 
     private static void powers() {
