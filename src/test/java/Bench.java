@@ -84,6 +84,19 @@ final class Bench {
         return with(part, held[part]);
     }
 
+    /** Has it work on the longest numbers: what they leave inside the desk must not show in a later answer. */
+    Bench afterLongNumbers() {
+        BigInteger[] before = {held[0], held[1], held[2]};
+        with(0, Numbers.LONGEST).with(1, Numbers.LONGEST.subtract(BigInteger.ONE));
+        desk.fraction(0, 1, 1, 0);
+        desk.power(0, 3, 2);
+        desk.root(0, 2);
+        desk.sum(1, 2, 2);
+        desk.divisor(0, 0, 2);
+        calls += 5;
+        return with(0, before[0]).with(1, before[1]).with(2, before[2]);
+    }
+
     private int shortSlotBut(int one, int other) {
         int slot = SLOTS - 1;
         while (slot == one || slot == other || held[slot].bitLength() >= 64) {

@@ -13,6 +13,7 @@ public final class Promise03Test {
         DUE.test("300 digits below 0 are not too many, its sign is none", Promise03Test::fitsBelow);
         DUE.test("NONE when a number below 0 would have 301 digits", Promise03Test::tooLongBelow);
         DUE.test("a slot that takes digits until it is full", Promise03Test::full);
+        DUE.test("slots taken as they are, whatever calls came before", Promise03Test::afterLongNumbers);
         DUE.test("slots 0 and 15 are slots", Promise03Test::firstAndLastSlot);
         DUE.test("NONE, changing nothing, when there is no such slot", Promise03Test::noSuchSlot);
         DUE.end();
@@ -84,6 +85,14 @@ public final class Promise03Test {
         DUE.is("digits(6)", 300, desk.digits(6));
         DUE.is("low(6)", Numbers.LONGEST.longValue(), desk.low(6));
         DUE.is("modulo(6, 7)", Numbers.LONGEST.mod(Numbers.of(7)).longValue(), desk.modulo(6, 7));
+    }
+
+    private static void afterLongNumbers() {
+        for (BigInteger before : new BigInteger[] {Numbers.of(-100000), BigInteger.ZERO, Numbers.ten(24)}) {
+            Bench bench = new Bench(DUE).with(6, before).afterLongNumbers();
+            BigInteger now = before.multiply(BigInteger.TEN).add(Numbers.of(7));
+            bench.holds("digit(6, 7) of " + before, bench.desk.digit(6, 7), 6, now);
+        }
     }
 
     private static void firstAndLastSlot() {

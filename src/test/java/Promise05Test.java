@@ -12,6 +12,7 @@ public final class Promise05Test {
         DUE.test("300 digits are not too many, above 0 and below 0", Promise05Test::fits);
         DUE.test("NONE when a number would have 301 digits, above 0 or below 0", Promise05Test::tooLong);
         DUE.test("slots may be the same one, each taken as it is before the call", SUM::sameSlots);
+        DUE.test("slots taken as they are, whatever calls came before", SUM::afterLongNumbers);
         DUE.test("slots 0 and 15 are slots", SUM::firstAndLastSlot);
         DUE.test("NONE, changing nothing, when there is no such slot", SUM::noSuchSlot);
         DUE.end();

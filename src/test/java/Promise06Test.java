@@ -12,6 +12,7 @@ public final class Promise06Test {
         DUE.test("300 digits are not too many, above 0 and below 0", Promise06Test::fits);
         DUE.test("NONE when a number would have 301 digits, above 0 or below 0", Promise06Test::tooLong);
         DUE.test("slots may be the same one, each taken as it is before the call", LESS::sameSlots);
+        DUE.test("slots taken as they are, whatever calls came before", LESS::afterLongNumbers);
         DUE.test("slots 0 and 15 are slots", LESS::firstAndLastSlot);
         DUE.test("NONE, changing nothing, when there is no such slot", LESS::noSuchSlot);
         DUE.end();

@@ -12,6 +12,7 @@ public final class Promise07Test {
         DUE.test("300 digits are not too many, above 0 and below 0", Promise07Test::fits);
         DUE.test("NONE when a number would have 301 digits, above 0 or below 0", Promise07Test::tooLong);
         DUE.test("slots may be the same one, each taken as it is before the call", PRODUCT::sameSlots);
+        DUE.test("slots taken as they are, whatever calls came before", PRODUCT::afterLongNumbers);
         DUE.test("slots 0 and 15 are slots", PRODUCT::firstAndLastSlot);
         DUE.test("NONE, changing nothing, when there is no such slot", PRODUCT::noSuchSlot);
         DUE.end();

@@ -13,6 +13,7 @@ public final class Promise08Test {
         DUE.test("b next to 0, and 300 digits that stay", Promise08Test::overOne);
         DUE.test("b next to a, and 300 digits over 300", Promise08Test::nextToEachOther);
         DUE.test("slots may be the same one, each taken as it is before the call", OVER::sameSlots);
+        DUE.test("slots taken as they are, whatever calls came before", OVER::afterLongNumbers);
         DUE.test("slots 0 and 15 are slots", OVER::firstAndLastSlot);
         DUE.test("NONE, changing nothing, when there is no such slot", OVER::noSuchSlot);
         DUE.end();

@@ -14,6 +14,7 @@ public final class Promise09Test {
         DUE.test("b next to 0: nothing is left", Promise09Test::leftByOne);
         DUE.test("b next to a, and 300 digits left by 300", Promise09Test::nextToEachOther);
         DUE.test("slots may be the same one, each taken as it is before the call", LEFT::sameSlots);
+        DUE.test("slots taken as they are, whatever calls came before", LEFT::afterLongNumbers);
         DUE.test("slots 0 and 15 are slots", LEFT::firstAndLastSlot);
         DUE.test("NONE, changing nothing, when there is no such slot", LEFT::noSuchSlot);
         DUE.end();

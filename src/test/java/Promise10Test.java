@@ -14,6 +14,7 @@ public final class Promise10Test {
         DUE.test("the greatest one, also of numbers below 0", Promise10Test::greatest);
         DUE.test("300 digits are not too many", Promise10Test::fits);
         DUE.test("slots may be the same one, each taken as it is before the call", DIVISOR::sameSlots);
+        DUE.test("slots taken as they are, whatever calls came before", DIVISOR::afterLongNumbers);
         DUE.test("slots 0 and 15 are slots", DIVISOR::firstAndLastSlot);
         DUE.test("NONE, changing nothing, when there is no such slot", DIVISOR::noSuchSlot);
         DUE.end();

@@ -11,6 +11,7 @@ public final class Promise11Test {
         DUE.test("whose square is not above a: at a square, and one before it", Promise11Test::atSquares);
         DUE.test("of the longest numbers", Promise11Test::longest);
         DUE.test("slots may be the same one", Promise11Test::sameSlot);
+        DUE.test("slots taken as they are, whatever calls came before", Promise11Test::afterLongNumbers);
         DUE.test("slots 0 and 15 are slots", Promise11Test::firstAndLastSlot);
         DUE.test("NONE, changing nothing, when there is no such slot", Promise11Test::noSuchSlot);
         DUE.end();
@@ -68,6 +69,14 @@ public final class Promise11Test {
         bench.holds("root(2, 2) of 99", bench.desk.root(2, 2), 2, 9);
         bench.with(2, Numbers.LONGEST);
         bench.holds("root(2, 2) of 10^300 - 1", bench.desk.root(2, 2), 2, Numbers.ten(150).subtract(ONE));
+    }
+
+    private static void afterLongNumbers() {
+        BigInteger ten = Numbers.ten(36);
+        for (BigInteger a : new BigInteger[] {BigInteger.ZERO, ONE, Numbers.of(999999), ten.subtract(ONE), ten}) {
+            Bench bench = new Bench(DUE).with(2, a).afterLongNumbers();
+            bench.holds("root of " + a, bench.desk.root(2, 9), 9, a.sqrt());
+        }
     }
 
     private static void firstAndLastSlot() {

@@ -14,6 +14,7 @@ public final class Promise12Test {
         DUE.test("300 digits are not too many, above 0 and below 0", Promise12Test::fits);
         DUE.test("NONE when a number would have 301 digits, above 0 or below 0", Promise12Test::tooLong);
         DUE.test("slots may be the same one", Promise12Test::sameSlot);
+        DUE.test("slots taken as they are, whatever calls came before", Promise12Test::afterLongNumbers);
         DUE.test("slots 0 and 15 are slots", Promise12Test::firstAndLastSlot);
         DUE.test("NONE, changing nothing, when there is no such slot", Promise12Test::noSuchSlot);
         DUE.end();
@@ -97,6 +98,13 @@ public final class Promise12Test {
         for (int e : new int[] {0, 1, 2, 5, 10}) {
             Bench bench = new Bench(DUE).with(2, -3);
             bench.holds("power(2, " + e + ", 2) of -3", bench.desk.power(2, e, 2), 2, Numbers.of(-3).pow(e));
+        }
+    }
+
+    private static void afterLongNumbers() {
+        for (int e : new int[] {0, 1, 2, 5, 30}) {
+            Bench bench = new Bench(DUE).with(2, -1000).afterLongNumbers();
+            bench.holds("power(2, " + e + ", 9) of -1000", bench.desk.power(2, e, 9), 9, Numbers.of(-1000).pow(e));
         }
     }
 

@@ -13,6 +13,7 @@ public final class Promise13Test {
         DUE.test("NONE, too, when both are one slot", Promise13Test::oneSlot);
         DUE.test("NONE, too, when b is 0", Promise13Test::overZero);
         DUE.test("300 digits are not too many, above 0 and below 0", Promise13Test::fits);
+        DUE.test("slots taken as they are, whatever calls came before", Promise13Test::afterLongNumbers);
         DUE.test("slots 0 and 15 are slots", Promise13Test::firstAndLastSlot);
         DUE.test("NONE, changing nothing, when there is no such slot", Promise13Test::noSuchSlot);
         DUE.end();
@@ -91,6 +92,14 @@ public final class Promise13Test {
         gives(LONGEST, LONGEST.negate(), ONE.negate(), ONE);
         gives(LONGEST, ONE.negate(), LONGEST.negate(), ONE);
         gives(ONE, LONGEST.negate(), ONE.negate(), LONGEST);
+    }
+
+    private static void afterLongNumbers() {
+        BigInteger ten = Numbers.ten(24);
+        Bench bench = new Bench(DUE).with(2, ten).with(5, ten.multiply(Numbers.of(-7))).afterLongNumbers();
+        bench.holds("lowest of 10^24 / -7 * 10^24", bench.desk.lowest(2, 5), 2, ONE.negate(), 5, Numbers.of(7));
+        bench = new Bench(DUE).with(2, 0).with(5, -7).afterLongNumbers();
+        bench.holds("lowest of 0 / -7", bench.desk.lowest(2, 5), 2, BigInteger.ZERO, 5, ONE);
     }
 
     private static void firstAndLastSlot() {

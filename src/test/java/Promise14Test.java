@@ -20,6 +20,7 @@ public final class Promise14Test {
         DUE.test("NONE when b would have 301 digits", Promise14Test::lowerTooLong);
         DUE.test("more than 300 digits on the way are not held by a slot", Promise14Test::longOnTheWay);
         DUE.test("slots may be the same one, each taken as it is before the call", Promise14Test::sameSlots);
+        DUE.test("slots taken as they are, whatever calls came before", Promise14Test::afterLongNumbers);
         DUE.test("slots 0 and 15 are slots", Promise14Test::firstAndLastSlot);
         DUE.test("NONE, changing nothing, when there is no such slot", Promise14Test::noSuchSlot);
         DUE.end();
@@ -164,6 +165,14 @@ public final class Promise14Test {
     /** All ways to name four slots out of four, but those where a and b are one. */
     private static void sameSlots() {
         Bench.eachChoice(new int[] {2, 5, 8, 12}, 4, slots -> goesWell(benchOf(wholes(-3, 4, 10, -21)), slots));
+    }
+
+    private static void afterLongNumbers() {
+        Bench bench = benchOf(wholes(1000000, -3, 7, 1000000)).afterLongNumbers();
+        BigInteger upper = Numbers.of(21).subtract(Numbers.ten(12));
+        bench.holds("fraction", bench.desk.fraction(2, 5, 8, 12), 2, upper, 5, Numbers.of(3000000));
+        bench = benchOf(wholes(1, 2, 1, -2)).afterLongNumbers();
+        bench.holds("fraction of 1 / 2 + 1 / -2", bench.desk.fraction(2, 5, 8, 12), 2, ZERO, 5, ONE);
     }
 
     private static void firstAndLastSlot() {

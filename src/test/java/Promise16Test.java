@@ -15,6 +15,7 @@ public final class Promise16Test {
         DUE.test("NONE, too, when d is 0", Promise16Test::secondOverZero);
         DUE.test("of the longest numbers", Promise16Test::longest);
         DUE.test("slots may be the same one, a and b too", Promise16Test::sameSlots);
+        DUE.test("slots taken as they are, whatever calls came before", Promise16Test::afterLongNumbers);
         DUE.test("slots 0 and 15 are slots", Promise16Test::firstAndLastSlot);
         DUE.test("NONE when there are none such", Promise16Test::noSuchSlot);
         DUE.end();
@@ -99,6 +100,12 @@ public final class Promise16Test {
     private static void sameSlots() {
         Bench.eachChoice(new int[] {2, 5, 8}, 4, slots -> {
             goesWell(new Bench(DUE).with(2, -3).with(5, 4).with(8, 11), slots);
+        });
+    }
+
+    private static void afterLongNumbers() {
+        Bench.eachChoice(new int[] {5, 8}, 4, slots -> {
+            goesWell(new Bench(DUE).with(5, Numbers.ten(24)).with(8, -1000).afterLongNumbers(), slots);
         });
     }
 

@@ -41,6 +41,15 @@ final class TwoIntoOne {
         Bench.eachChoice(new int[] {3, 7}, 3, slots -> goesWell(new Bench(due).with(3, more).with(7, fewer), slots));
     }
 
+    void afterLongNumbers() {
+        BigInteger fewer = Numbers.ten(24).subtract(BigInteger.ONE);
+        BigInteger more = Numbers.of("1500000000000123456789012");
+        Bench.eachChoice(new int[] {3, 7}, 3, slots -> {
+            goesWell(new Bench(due).with(3, fewer).with(7, more).afterLongNumbers(), slots);
+            goesWell(new Bench(due).with(3, -1000).with(7, 70).afterLongNumbers(), slots);
+        });
+    }
+
     private void goesWell(Bench bench, int... slots) {
         BigInteger now = want.apply(bench.held(slots[0]), bench.held(slots[1]));
         bench.holds(Bench.named(name, slots), call.of(bench.desk, slots[0], slots[1], slots[2]), slots[2], now);
